@@ -72,6 +72,9 @@ public final class PromiseTest {
         due("2 set", 1, x.set(7, 39, 5));
         due("2 new", 1, x.row(7, 3, 40));
         due("2 first", 0, x.element(7, 39));
+        x.set(7, 0, 8);
+        x.row(7, 3, 40);
+        due("2 first", 0, x.element(7, 0));
         due("2 shelf", BAD, x.row(8, 0, 0));
         due("2 shelf", BAD, x.row(-1, 0, 0));
         due("2 sort", BAD, x.row(0, 5, 0));
@@ -94,6 +97,10 @@ public final class PromiseTest {
             due("3 another", 0, x.element(sort, 0));
         }
         due("3 boolean", 1, x.set(4, 0, 256));
+        due("3 boolean", 1, x.element(4, 0));
+        due("3 boolean", 1, x.set(4, 0, 0));
+        due("3 boolean", 0, x.element(4, 0));
+        due("3 boolean", 1, x.set(4, 0, 1));
         due("3 boolean", 1, x.element(4, 0));
         due("3 byte", 1, x.set(0, 0, 256));
         due("3 byte", 0, x.element(0, 0));
@@ -426,6 +433,8 @@ public final class PromiseTest {
         due("17 sheet of none", 0, x.sheetOf(1, NONE));
         due("17 sheet and more", 2, Check.evening(x, "sheet 1 0 ;need 5"));
         due("17 sheet and more", 1, x.sheetOf(1, NONE));
+        due("17 the greatest", 1, Check.evening(new TownRiverBeast(), "word 5 25 3 60 9"));
+        due("17 close together", 3, Check.evening(new TownRiverBeast(), "need3;bell600;person"));
         due("17 columns twice", 2, Check.evening(new TownRiverBeast(), "columns 1;columns 2"));
         refusals("17", x, 0, 0, 0, 0, 0);
         fault("", 0);
@@ -444,6 +453,8 @@ public final class PromiseTest {
         fault("need three", 5);
         fault("needs 3", 0);
         fault("nee", 0);
+        fault("seed 3", 0);
+        fault("needneed", 0);
         fault("need 3 bell 4", 7);
         fault("need 3,", 6);
         fault("Need 3", 0);
@@ -838,6 +849,8 @@ public final class PromiseTest {
         due("32 nobody", 0, x.lonely(1));
         x.knows(2, 6, true);
         due("32 letter", 64, x.lonely(1));
+        x.knows(1, 0, false);
+        due("32 the first", 25, x.lonely(0));
         due("32 BAD", BAD, x.lonely(26));
         due("32 BAD", BAD, x.lonely(-1));
         refusals("32", x, 2, 0, 0, 0, 0);
@@ -871,6 +884,9 @@ public final class PromiseTest {
         due("34 of several the first", 0, x.gains(25));
         x.knows(2, 6, true);
         due("34", 2, x.gains(1));
+        x.knows(1, 5, true);
+        x.knows(0, 0, false);
+        due("34", 1, x.gains(0));
     }
 
     private static void promise35() {
@@ -878,6 +894,7 @@ public final class PromiseTest {
         due("35", 5, x.silent(5, 3, 0));
         due("35", 8, x.silent(5, 3, 1));
         due("35 around", 3, x.silent(25, 2, 2));
+        due("35 slow", 1, x.silent(0, 1, 1));
         due("35 most", 25, x.silent(25, 26, 1000));
         due("35", 25, x.silent(25, 25, 26));
         due("35 BAD", BAD, x.silent(26, 1, 0));
@@ -1194,6 +1211,14 @@ public final class PromiseTest {
         due("51 once more", 1, x.back());
         due("51 once more", 4, x.sheetOf(0, NONE));
         due("51 a new person knows nothing", 3, x.person());
+        x.back();
+        x.word(0, 0, 0, 1, 0);
+        x.knows(0, 7, true);
+        x.back();
+        Check.row(x, 3, 7);
+        due("51 a word that is no more", 0, x.judge(3, 1, 0));
+        due("51 a word that is no more", BAD, x.wordOf(7, 0));
+        x.person();
         due("51 a new word is nobody's", 7, x.word(0, 0, 0, 1, 0));
         due("51 a new word is nobody's", 0, x.wordOf(7, 5));
     }
