@@ -887,9 +887,11 @@ public final class TownRiverBeast {
             System.arraycopy(other.seconds, 0, seconds, 0, MOST_WORDS);
             System.arraycopy(other.extras, 0, extras, 0, MOST_WORDS);
             System.arraycopy(other.knowers, 0, knowers, 0, MOST_WORDS);
-            System.arraycopy(other.isUsed, 0, isUsed, 0, MOST_WORDS);
             System.arraycopy(other.sizes, 0, sizes, 0, MOST_PEOPLE);
             System.arraycopy(other.scores, 0, scores, 0, MOST_PEOPLE);
+            for (int w = 0; w < MOST_WORDS; w++) {
+                isUsed[w] = other.isUsed[w];
+            }
             for (int p = 0; p < MOST_PEOPLE; p++) {
                 System.arraycopy(other.sheets[p], 0, sheets[p], 0, MOST_ON_SHEET);
             }
