@@ -146,8 +146,8 @@ public final class Boundary17Test {
     private static void knowsAndPeople() {
         TownRiverBeast x = read("knows 2 6", 1, Worlds::bare);
         Boundary.due("the last of both", 4, x.wordOf(6, 5));
-        x = read("knows 0 0;knows 0 0", 2, Worlds::bare);
-        Boundary.due("it was so", 3, x.wordOf(0, 5));
+        Boundary.due("it was so", 3, read("knows 0 0", 1, Worlds::bare).wordOf(0, 5));
+        Boundary.due("twice", 5, read("knows 2 5;knows 2 5", 2, Worlds::bare).wordOf(5, 5));
         x = read("person;knows 3 0;word 0 0 0 1 0;knows 3 7", 4, Worlds::bare);
         Boundary.due("somebody new", 11, x.wordOf(0, 5));
         Boundary.due("a new word", 8, x.wordOf(7, 5));

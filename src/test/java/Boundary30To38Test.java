@@ -105,6 +105,13 @@ public final class Boundary30To38Test {
         Boundary.due("on a full sheet", 5, x.bestWord(0, 0));
         Boundary.due("in thought", 0, x.sheetOf(0, 0));
         Boundary.due("the last column", 4, x.bestWord(0, 4));
+        Check.sheet(x, 0, 0, 1, 2, 3);
+        Boundary.due("as the fifth", 4, x.bestWord(0, 4));
+        Check.sheet(x, 0);
+        x.ask(NEED, 2);
+        x.ask(ALONE, 1);
+        Boundary.due("of a sheet that was longer nothing is left", 0, x.bestWord(0, 0));
+        Boundary.due("nor written", 0, x.written(0, 600));
     }
 
     private static void promise31() {
