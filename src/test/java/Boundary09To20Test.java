@@ -144,31 +144,41 @@ public final class Boundary09To20Test {
     }
 
     private static void promise13() {
-        String[] sentences = {"LETTERS are 0 to 25", "NEED (1 to 5; 4 at first)", "BELL (1 to 600 seconds; 180 at first)",
-            "ALONE in a COLUMN (0 to 50; 20 at first)", "OWN (10 at first)", "ALIKE (5 at first)", "VOTE (0 or 1; 0 at first)",
-            "BAR (0 or 1; 0 at first)"};
-        int[] first = {0, 4, 180, 20, 10, 5, 0, 0};
-        int[] least = {0, 1, 1, 0, 0, 0, 0, 0};
-        int[] most = {25, 5, 600, 50, 50, 50, 1, 1};
-        for (int k = 0; k < 8; k++) {
-            int what = k;
-            Boundary.at(Boundary.TERMS, sentences[k]);
-            TownRiverBeast x = new TownRiverBeast();
-            Boundary.due("at first", first[k], x.ask(k, most[k]));
-            Boundary.due("the most", most[k], x.status(3 + k));
-            Boundary.due("the most", most[k], x.ask(k, least[k]));
-            Boundary.due("the least", least[k], x.status(3 + k));
-            Boundary.due("the least", least[k], x.ask(k, least[k]));
-            for (int other = 0; other < 8; other++) {
-                Boundary.due("ask " + other, other == k ? least[k] : first[other], x.status(3 + other));
-            }
-            for (int v : new int[] {least[k] - 1, most[k] + 1, LOW, HIGH}) {
-                Boundary.refused("becomes " + v, BAD, RICH, y -> y.ask(what, v));
-            }
-        }
+        Boundary.at(Boundary.TERMS, "LETTERS are 0 to 25");
+        asked(0, 0, 25);
+        Boundary.at(Boundary.TERMS, "NEED (1 to 5; 4 at first)");
+        asked(1, 1, 5);
+        Boundary.at(Boundary.TERMS, "BELL (1 to 600 seconds; 180 at first)");
+        asked(2, 1, 600);
+        Boundary.at(Boundary.TERMS, "ALONE in a COLUMN (0 to 50; 20 at first)");
+        asked(3, 0, 50);
+        Boundary.at(Boundary.TERMS, "OWN (10 at first)");
+        asked(4, 0, 50);
+        Boundary.at(Boundary.TERMS, "ALIKE (5 at first)");
+        asked(5, 0, 50);
+        Boundary.at(Boundary.TERMS, "VOTE (0 or 1; 0 at first)");
+        asked(6, 0, 1);
+        Boundary.at(Boundary.TERMS, "BAR (0 or 1; 0 at first)");
+        asked(7, 0, 1);
         Boundary.at(13, "BAD");
         for (int what : new int[] {-1, 8, LOW, HIGH}) {
             Boundary.refused("what " + what, BAD, RICH, x -> x.ask(what, 1));
+        }
+    }
+
+    private static void asked(int what, int least, int most) {
+        int[] first = {0, 4, 180, 20, 10, 5, 0, 0};
+        TownRiverBeast x = new TownRiverBeast();
+        Boundary.due("at first", first[what], x.ask(what, most));
+        Boundary.due("the most", most, x.status(3 + what));
+        Boundary.due("the most", most, x.ask(what, least));
+        Boundary.due("the least", least, x.status(3 + what));
+        Boundary.due("the least", least, x.ask(what, least));
+        for (int other = 0; other < 8; other++) {
+            Boundary.due("ask " + other, other == what ? least : first[other], x.status(3 + other));
+        }
+        for (int v : new int[] {least - 1, most + 1, LOW, HIGH}) {
+            Boundary.refused("becomes " + v, BAD, RICH, y -> y.ask(what, v));
         }
     }
 

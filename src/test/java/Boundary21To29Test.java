@@ -327,7 +327,7 @@ public final class Boundary21To29Test {
     }
 
     private static void bestOfSeveral() {
-        Boundary.at(Boundary.TERMS, "of several the first as bits (least)");
+        Boundary.at(Boundary.TERMS, "that by which the person has most POINTS, of several the first as bits (least)");
         best("two of a column", Worlds.knowing(1, 9, 30, 30, 30, 30, 9), 0, 80, 15, 99);
         TownRiverBeast x = Worlds.knowing(1, 9, 60, 60, 60, 60, 8);
         x.ask(NEED, 1);
@@ -438,7 +438,7 @@ public final class Boundary21To29Test {
             Boundary.refused("person " + person, BAD, RICH, x -> x.swap(person, 0, 0));
         }
         Boundary.refused("none on the sheet", BAD, () -> Worlds.people(1), x -> x.swap(0, 0, 0));
-        Boundary.at(29, "in truth: the one that is at i then");
+        Boundary.at(29, "in truth: the one that is at i then. BAD");
         TownRiverBeast x = Worlds.rich();
         Boundary.due("first and last", 5, x.swap(0, 0, 4));
         int[] wants = {5, 1, 2, 3, 0};

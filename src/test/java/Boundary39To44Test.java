@@ -42,7 +42,7 @@ public final class Boundary39To44Test {
     }
 
     private static void promise40() {
-        Boundary.at(40, "of several the first; NONE: nobody else is there. BAD. (NONE isn't refused.)");
+        Boundary.at(40, "Who besides a person has most POINTS, of several the first; NONE: nobody else is there. BAD. (NONE isn't refused.)");
         for (int person : NO_PEOPLE) {
             Boundary.refused("person " + person, BAD, RICH, x -> x.rival(person));
         }

@@ -274,7 +274,7 @@ public final class Boundary45To52Test {
         x.image();
         Boundary.due("something was", 1, x.back());
         Boundary.due("it stays kept", 1, x.back());
-        Boundary.at(51, "(SHELVES with WORDS hold those of the same numbers, or NOTHING)");
+        Boundary.at(51, "(SHELVES with WORDS hold those of the same numbers, or NOTHING): 1");
         x = Worlds.words(22);
         x.image();
         x.word(0, 0, 0, 1, 0);
@@ -356,6 +356,7 @@ public final class Boundary45To52Test {
         for (int what : new int[] {-1, 20, LOW, HIGH}) {
             Boundary.told("status " + what, NONE, RICH, x -> x.status(what));
         }
+        Boundary.at(52, "COLUMNS (0), WORDS (1), PEOPLE (2)");
         int[] wants = {5, 7, 3, 0, 4, 170, 20, 10, 5, 0, 0, 13, 1, 1, 1, 0, 0, 77, 6, 1};
         for (int k = 0; k < 20; k++) {
             int what = k;
@@ -376,7 +377,7 @@ public final class Boundary45To52Test {
                 }
             }
         }
-        Boundary.at(52, "SHELVES that hold something (18)");
+        Boundary.at(52, "SEED (17), SHELVES that hold something (18)");
         for (int s = 0; s < 8; s++) {
             Boundary.due("ahead of shelf " + s, Math.max(1, s), x.status(18));
             x.row(s, s % 5, s % 2);
