@@ -1,588 +1,297 @@
+import java.lang.reflect.Method;
 import java.util.ArrayList;
 import java.util.Arrays;
 import java.util.List;
+import java.util.Map;
 import java.util.Random;
+import java.util.TreeMap;
 
 /**
- * Long random runs against a second, slow program that follows the document's words one by one:
- * every set of words, every order, every second is tried.
+ * Random runs of 512 calls of the whole face, each answer against a second, slow program that follows the
+ * document's words one by one (SlowBeast): every set of words, every order, every second is tried there.
  */
 public final class ModelTest {
     private static final int NONE = -1;
+    private static final int CALLS = 512;
+    private static final Map<String, Method> FAST = methodsOf(TownRiverBeast.class);
+    private static final Map<String, Method> SLOW = methodsOf(SlowBeast.class);
+    /** For each call how many were answered, and how many refused. */
+    private static final Map<String, int[]> SEEN = new TreeMap<>();
+    private static final int[] STRANGE = {-2, -1, 0, 1, 5, 6, 7, 8, 9, 10, 24, 25, 26, 27, 39, 40, 41, 50, 51, 60, 61, 100, 255,
+        256, 600, 601, 1000, 1001, Integer.MIN_VALUE, Integer.MAX_VALUE};
+    private static final String[] NAMES = {"columns", "word", "person", "knows", "letter", "need", "bell", "points", "sheet"};
 
-    private record Word(int kind, int letter, int column, int seconds, int a) {
+    private final Random r;
+    private final int number;
+    private final TownRiverBeast x = new TownRiverBeast();
+    private final SlowBeast slow = new SlowBeast();
+    private final int letters;
+    private final int longest;
+    private int calls = 0;
+
+    private ModelTest(int number) {
+        this.number = number;
+        // Seeds that follow one another begin alike.
+        r = new Random(number * 0x9E3779B97F4A7C15L);
+        letters = 1 + r.nextInt(4);
+        longest = r.nextBoolean() ? 8 : 60;
     }
 
-    /** What the document calls the evening, held in lists. */
-    private static final class Model {
-        int columns = 4;
-        List<Word> words = new ArrayList<>();
-        List<boolean[]> knows = new ArrayList<>();
-        List<Boolean> used = new ArrayList<>();
-        List<List<Integer>> sheets = new ArrayList<>();
-        List<Integer> scores = new ArrayList<>();
-        int[] asked = {0, 4, 180, 20, 10, 5, 0, 0};
-        int seed = 1;
-
-        Model copy() {
-            Model m = new Model();
-            m.columns = columns;
-            m.words = new ArrayList<>(words);
-            for (boolean[] k : knows) {
-                m.knows.add(k.clone());
-            }
-            m.used = new ArrayList<>(used);
-            for (List<Integer> s : sheets) {
-                m.sheets.add(new ArrayList<>(s));
-            }
-            m.scores = new ArrayList<>(scores);
-            m.asked = asked.clone();
-            m.seed = seed;
-            return m;
-        }
-
-        int takes(int w) {
-            Word x = words.get(w);
-            if (x.kind == 1 || x.kind == 3) {
-                return x.seconds < 2 ? 1 : x.seconds / 2;
-            }
-            int sum = x.seconds;
-            if (x.kind == 2 || x.kind == 5) {
-                sum += x.a;
-            }
-            return x.kind == 5 ? sum + 5 : sum;
-        }
-
-        int howManyKnow(int w) {
-            int n = 0;
-            for (boolean k : knows.get(w)) {
-                n += k ? 1 : 0;
-            }
-            return n;
-        }
-
-        boolean could(int p, int w) {
-            return words.get(w).letter == asked[0] && knows.get(w)[p] && !(asked[7] == 1 && used.get(w));
-        }
-
-        boolean fits(int p, List<Integer> line) {
-            for (int i = 0; i < line.size(); i++) {
-                int w = line.get(i);
-                if (w < 0 || w >= words.size() || !could(p, w)) {
-                    return false;
-                }
-                for (int j = 0; j < i; j++) {
-                    if (words.get(line.get(j)).column == words.get(w).column) {
-                        return false;
-                    }
-                }
-            }
-            return true;
-        }
-
-        List<Integer> written(int p, int second) {
-            List<Integer> all = new ArrayList<>();
-            int time = 0;
-            for (int w : sheets.get(p)) {
-                if (could(p, w)) {
-                    time += takes(w);
-                    if (time <= second) {
-                        all.add(w);
-                    }
-                }
-            }
-            return all;
-        }
-
-        int call() {
-            for (int second = 0; second < asked[2]; second++) {
-                for (int p = 0; p < sheets.size(); p++) {
-                    if (written(p, second).size() >= asked[1]) {
-                        return second;
-                    }
-                }
-            }
-            return asked[2];
-        }
-
-        int caller() {
-            for (int p = 0; p < sheets.size(); p++) {
-                if (written(p, call()).size() >= asked[1]) {
-                    return p;
-                }
-            }
-            return NONE;
-        }
-
-        List<List<Integer>> kept() {
-            int second = call();
-            List<List<Integer>> all = new ArrayList<>();
-            for (int p = 0; p < sheets.size(); p++) {
-                List<Integer> mine = written(p, second);
-                mine.removeIf(w -> asked[6] == 1 && words.get(w).kind == 4 && howManyKnow(w) * 2 < sheets.size());
-                all.add(mine);
-            }
-            return all;
-        }
-
-        int points(int p, int column) {
-            List<List<Integer>> kept = kept();
-            int sum = 0;
-            for (int w : kept.get(p)) {
-                int c = words.get(w).column;
-                boolean alone = true;
-                boolean own = true;
-                for (int q = 0; q < kept.size(); q++) {
-                    if (q != p) {
-                        own &= !kept.get(q).contains(w);
-                        for (int v : kept.get(q)) {
-                            alone &= words.get(v).column != c;
-                        }
-                    }
-                }
-                if (column == NONE || column == c) {
-                    sum += alone ? asked[3] : own ? asked[4] : asked[5];
-                }
-            }
-            return sum;
-        }
-
-        int leader(int besides) {
-            int found = NONE;
-            for (int p = 0; p < sheets.size(); p++) {
-                if (p != besides && (found == NONE || points(p, NONE) > points(found, NONE))) {
-                    found = p;
-                }
-            }
-            return found;
-        }
-
-        /** Points, bits, the call, and then the words as they are written. */
-        List<Integer> best(int person) {
-            Model m = copy();
-            int most = NONE;
-            List<Integer> found = null;
-            for (int set = 0; set < 1 << words.size(); set++) {
-                List<Integer> line = new ArrayList<>();
-                for (int w = 0; w < words.size(); w++) {
-                    if ((set >> w & 1) == 1) {
-                        line.add(w);
-                    }
-                }
-                if (line.size() > 5 || !fits(person, line)) {
-                    continue;
-                }
-                line.sort((v, w) -> takes(v) != takes(w) ? takes(v) - takes(w) : v - w);
-                m.sheets.set(person, line);
-                int points = m.points(person, NONE);
-                if (points > most) {
-                    most = points;
-                    found = new ArrayList<>(List.of(points, set, m.call()));
-                    found.addAll(line);
-                }
-            }
-            return found;
-        }
-
-        List<Integer> order(int person) {
-            Model m = copy();
-            List<List<Integer>> all = new ArrayList<>();
-            orders(new ArrayList<>(sheets.get(person)), new ArrayList<>(), all);
-            all.sort((x, y) -> Arrays.compare(x.stream().mapToInt(k -> k).toArray(), y.stream().mapToInt(k -> k).toArray()));
-            int most = NONE;
-            List<Integer> found = null;
-            for (List<Integer> line : all) {
-                m.sheets.set(person, line);
-                if (m.points(person, NONE) > most) {
-                    most = m.points(person, NONE);
-                    found = new ArrayList<>(List.of(most));
-                    found.addAll(line);
-                }
-            }
-            return found;
-        }
-
-        private static void orders(List<Integer> left, List<Integer> line, List<List<Integer>> all) {
-            if (left.isEmpty()) {
-                all.add(new ArrayList<>(line));
-            }
-            for (int i = 0; i < left.size(); i++) {
-                List<Integer> rest = new ArrayList<>(left);
-                line.add(rest.remove(i));
-                orders(rest, line, all);
-                line.remove(line.size() - 1);
-            }
-        }
-
-        int bestWord(int person, int column) {
-            int most = NONE;
-            int found = NONE;
-            for (int w = 0; w < words.size(); w++) {
-                if (words.get(w).column != column || !could(person, w)) {
-                    continue;
-                }
-                Model m = copy();
-                List<Integer> line = m.sheets.get(person);
-                boolean put = false;
-                for (int i = 0; i < line.size(); i++) {
-                    if (words.get(line.get(i)).column == column) {
-                        line.set(i, w);
-                        put = true;
-                    }
-                }
-                if (!put) {
-                    line.add(w);
-                }
-                if (m.points(person, NONE) > most) {
-                    most = m.points(person, NONE);
-                    found = w;
-                }
-            }
-            return found;
-        }
-
-        int[] learn(int person) {
-            int most = NONE;
-            int found = NONE;
-            for (int w = 0; w < words.size(); w++) {
-                if (words.get(w).letter == asked[0] && !knows.get(w)[person]) {
-                    Model m = copy();
-                    m.knows.get(w)[person] = true;
-                    int points = m.best(person).get(0);
-                    if (points > most) {
-                        most = points;
-                        found = w;
-                    }
-                }
-            }
-            return new int[] {found, Math.max(0, most - best(person).get(0))};
-        }
-
-        int fills(int person, int letter) {
-            int n = 0;
-            for (int c = 0; c < columns; c++) {
-                boolean any = false;
-                for (int w = 0; w < words.size(); w++) {
-                    any |= words.get(w).column == c && words.get(w).letter == letter && knows.get(w)[person]
-                        && !(asked[7] == 1 && used.get(w));
-                }
-                n += any ? 1 : 0;
-            }
-            return n;
-        }
-
-        int stop(int letter, int rate, int person) {
-            for (int second = 0; second < 26; second++) {
-                int at = letter;
-                for (int k = 0; k < second * rate; k++) {
-                    at = at == 25 ? 0 : at + 1;
-                }
-                boolean most = true;
-                for (int p = 0; p < sheets.size(); p++) {
-                    most &= p == person || fills(p, at) < fills(person, at);
-                }
-                if (most) {
-                    return second;
-                }
-            }
-            return NONE;
-        }
-
-        int needFor(int person) {
-            int found = NONE;
-            int most = 0;
-            for (int need = 1; need <= 5; need++) {
-                Model m = copy();
-                m.asked[1] = need;
-                int other = m.leader(person);
-                int lead = m.points(person, NONE) - (other == NONE ? 0 : m.points(other, NONE));
-                if (found == NONE || lead > most) {
-                    found = need;
-                    most = lead;
-                }
-            }
-            return found;
-        }
-
-        int late(int person) {
-            int time = 0;
-            for (int w : sheets.get(person)) {
-                time += could(person, w) ? takes(w) : 0;
-            }
-            return Math.max(0, time - call());
-        }
-
-        int clashes() {
-            List<List<Integer>> kept = kept();
-            int n = 0;
-            for (int c = 0; c < columns; c++) {
-                boolean clash = false;
-                for (int p = 0; p < kept.size(); p++) {
-                    for (int q = 0; q < p; q++) {
-                        for (int w : kept.get(p)) {
-                            clash |= words.get(w).column == c && kept.get(q).contains(w);
-                        }
-                    }
-                }
-                n += clash ? 1 : 0;
-            }
-            return n;
-        }
-
-        int empty() {
-            List<List<Integer>> kept = kept();
-            int found = 0;
-            int fewest = 99;
-            for (int c = 0; c < columns; c++) {
-                int n = 0;
-                for (List<Integer> mine : kept) {
-                    for (int w : mine) {
-                        n += words.get(w).column == c ? 1 : 0;
-                    }
-                }
-                if (n < fewest) {
-                    fewest = n;
-                    found = c;
-                }
-            }
-            return found;
-        }
-
-        int round() {
-            List<List<Integer>> kept = kept();
-            int caller = caller();
-            for (int p = 0; p < sheets.size(); p++) {
-                scores.set(p, scores.get(p) + points(p, NONE));
-            }
-            for (int p = 0; p < sheets.size(); p++) {
-                for (int w : kept.get(p)) {
-                    used.set(w, true);
-                }
-                sheets.get(p).clear();
-            }
-            return caller;
-        }
-
-        int takeBest(int p) {
-            List<Integer> found = best(p);
-            sheets.set(p, new ArrayList<>(found.subList(3, found.size())));
-            return found.get(0);
-        }
-
-        int rounds(int n) {
-            for (int k = 0; k < n; k++) {
-                seed = seed * 1103515245 + 12345;
-                asked[0] = (seed >> 16 & 0xFFFF) % 26;
-                for (int p = 0; p < sheets.size(); p++) {
-                    takeBest(p);
-                }
-                round();
-            }
-            int found = 0;
-            for (int p = 0; p < sheets.size(); p++) {
-                found = scores.get(p) > scores.get(found) ? p : found;
-            }
-            return found;
-        }
-    }
-
-    private static int bits(List<Integer> numbers) {
-        int all = 0;
-        for (int w : numbers) {
-            all |= 1 << w;
+    private static Map<String, Method> methodsOf(Class<?> c) {
+        Map<String, Method> all = new TreeMap<>();
+        for (Method m : c.getDeclaredMethods()) {
+            m.setAccessible(true);
+            all.put(m.getName(), m);
         }
         return all;
     }
 
-    private static void due(String what, long want, long got) {
-        Check.due(what, want, got);
-    }
-
-    private static void compareAll(String run, TownRiverBeast x, Model m, Random r) {
-        due(run + " call", m.sheets.isEmpty() ? -5 : m.call(), x.call());
-        due(run + " caller", m.caller(), x.caller());
-        due(run + " winner", m.sheets.isEmpty() ? -5 : m.leader(NONE), x.winner());
-        due(run + " clashes", m.clashes(), x.clashes());
-        due(run + " empty", m.empty(), x.empty());
-        List<List<Integer>> kept = m.kept();
-        for (int w = 0; w < m.words.size(); w++) {
-            int by = 0;
-            for (int p = 0; p < kept.size(); p++) {
-                by |= kept.get(p).contains(w) ? 1 << p : 0;
-            }
-            due(run + " keptBy", by, x.keptBy(w));
-            due(run + " takes", m.takes(w), x.wordOf(w, 7));
-            due(run + " used", m.used.get(w) ? 1 : 0, x.wordOf(w, 6));
-        }
-        for (int p = 0; p < m.sheets.size(); p++) {
-            comparePerson(run + " person " + p, x, m, p, r);
-            due(run + " kept", bits(kept.get(p)), x.kept(p));
+    private static long answer(Map<String, Method> methods, Object to, String name, Object... arguments) {
+        try {
+            return ((Number) methods.get(name).invoke(to, arguments)).longValue();
+        } catch (ReflectiveOperationException e) {
+            throw new IllegalStateException(name + Arrays.toString(arguments), e);
         }
     }
 
-    private static void comparePerson(String run, TownRiverBeast x, Model m, int p, Random r) {
-        int second = r.nextInt(100);
-        due(run + " written", bits(m.written(p, second)), x.written(p, second));
-        for (int c = -1; c < m.columns; c++) {
-            due(run + " points", m.points(p, c), x.points(p, c));
+    /** A call of both; behind the 512th answers are free, and none is compared. */
+    private void both(String name, Object... arguments) {
+        if (calls >= CALLS) {
+            return;
         }
-        for (int c = 0; c < m.columns; c++) {
-            due(run + " bestWord", m.bestWord(p, c), x.bestWord(p, c));
-        }
-        List<Integer> best = m.best(p);
-        for (int k = 0; k < 3; k++) {
-            due(run + " best " + k, best.get(k), x.best(p, k));
-        }
-        List<Integer> order = m.order(p);
-        for (int k = 0; k < order.size(); k++) {
-            due(run + " order " + k, order.get(k), x.order(p, k - 1));
-        }
-        due(run + " rival", m.leader(p), x.rival(p));
-        due(run + " needFor", m.needFor(p), x.needFor(p));
-        due(run + " late", m.late(p), x.late(p));
-        due(run + " score", m.scores.get(p), x.score(p));
-        due(run + " size", m.sheets.get(p).size(), x.sheetOf(p, NONE));
-        for (int i = 0; i < m.sheets.get(p).size(); i++) {
-            due(run + " sheet", m.sheets.get(p).get(i), x.sheetOf(p, i));
-        }
-        int letter = r.nextInt(3);
-        int rate = 1 + r.nextInt(26);
-        due(run + " fills", m.fills(p, letter), x.fills(p, letter));
-        due(run + " stop", m.stop(letter, rate, p), x.stop(letter, rate, p));
+        calls++;
+        int before = refusals();
+        long want = answer(SLOW, slow, name, arguments);
+        SEEN.computeIfAbsent(name, k -> new int[2])[refusals() - before]++;
+        Check.due("run " + number + " call " + calls + ": " + name + Arrays.toString(arguments), want,
+            answer(FAST, x, name, arguments));
     }
 
-    private static void compareLearn(String run, TownRiverBeast x, Model m) {
-        for (int p = 0; p < m.sheets.size(); p++) {
-            int[] learn = m.learn(p);
-            due(run + " learn", learn[0], x.learn(p, 0));
-            due(run + " learn more", learn[1], x.learn(p, 1));
-        }
-    }
-
-    private static void begin(TownRiverBeast x, Model m, Random r, int words, int letters) {
-        m.columns = 1 + r.nextInt(5);
-        x.columns(m.columns);
-        int people = 1 + r.nextInt(4);
-        for (int p = 0; p < people; p++) {
-            x.person();
-            m.sheets.add(new ArrayList<>());
-            m.scores.add(0);
-        }
-        int longest = r.nextBoolean() ? 8 : 60;
-        for (int w = 0; w < words; w++) {
-            Word word = new Word(r.nextInt(6), r.nextInt(letters), r.nextInt(m.columns), 1 + r.nextInt(longest), r.nextInt(10));
-            m.words.add(word);
-            m.used.add(false);
-            m.knows.add(new boolean[4]);
-            x.word(word.kind, word.letter, word.column, word.seconds, word.a);
-            for (int p = 0; p < people; p++) {
-                m.knows.get(w)[p] = r.nextInt(4) != 0;
-                x.knows(p, w, m.knows.get(w)[p]);
-            }
-        }
-    }
-
-    private static void tellSheet(TownRiverBeast x, Model m, Random r, int p) {
-        List<Integer> line = new ArrayList<>();
-        int n = r.nextInt(6);
-        for (int k = 0; k < 30 && line.size() < n; k++) {
-            line.add(r.nextInt(m.words.size() + 1));
-            if (r.nextInt(20) != 0 && !m.fits(p, line)) {
-                line.remove(line.size() - 1);
-            }
-        }
-        Check.row(x, 0, line.stream().mapToInt(k -> k).toArray());
-        int wrong = NONE;
-        for (int i = 0; i < line.size() && wrong == NONE; i++) {
-            wrong = m.fits(p, line.subList(0, i + 1)) ? NONE : i;
-        }
-        due("judge", wrong, x.judge(0, line.size(), p));
-        due("sheet", wrong == NONE ? line.size() : -5, x.sheet(0, line.size(), p));
+    private int refusals() {
         int sum = 0;
-        for (int w : line) {
-            sum += wrong == NONE ? m.takes(w) : 0;
+        for (int k = 12; k <= 16; k++) {
+            sum += slow.status(k);
         }
-        due("takes", wrong == NONE ? sum : -5, x.takes(0, line.size(), p));
-        if (wrong == NONE) {
-            m.sheets.set(p, line);
+        return sum;
+    }
+
+    private int strange() {
+        return STRANGE[r.nextInt(STRANGE.length)];
+    }
+
+    private int between(int least, int most) {
+        return most < least ? least : least + r.nextInt(most - least + 1);
+    }
+
+    /** Mostly what may be. */
+    private Object argument(String call, String parameter) {
+        if (parameter.equals("boolean is")) {
+            return r.nextInt(4) != 0;
+        }
+        if (parameter.equals("long v")) {
+            return r.nextInt(3) == 0 ? r.nextLong() : (long) between(NONE, slow.status(1));
+        }
+        if (call.equals("seed")) {
+            return r.nextInt();
+        }
+        return r.nextInt(25) == 0 ? strange() : likely(call, parameter.substring("int ".length()));
+    }
+
+    private int likely(String call, String name) {
+        switch (name) {
+            case "s", "p", "q": return likelyShelf(call);
+            case "sort": return r.nextBoolean() ? 2 : between(0, 4);
+            case "n": return call.equals("columns") ? between(1, 5) : call.equals("rounds") ? between(1, 2) : manyOf(call);
+            case "i", "j": return between(call.equals("sheetOf") || call.equals("order") ? NONE : 0, 3);
+            case "word": return between(r.nextInt(9) == 0 ? NONE : 0, slow.status(1) - 1);
+            case "kind": return between(0, 5);
+            case "column": return between(call.equals("points") ? NONE : 0, slow.status(0) - 1);
+            case "seconds": return between(1, longest);
+            case "a": return between(0, 9);
+            case "person": return between(0, slow.status(2) - 1);
+            case "letter": return call.equals("feed") ? between('a', 'z') : between(0, letters - 1);
+            case "what": return between(0, call.equals("status") ? 19 : call.equals("best") ? 2 : call.equals("learn") ? 1 : 7);
+            case "second": return between(0, 100);
+            case "rate": return between(1, 26);
+            default: return call.equals("ask") ? strange() : between(0, 60);
         }
     }
 
-    private static void change(TownRiverBeast x, Model m, Random r) {
-        int p = r.nextInt(m.sheets.size());
-        int w = r.nextInt(m.words.size());
-        switch (r.nextInt(10)) {
-            case 0 -> {
-                m.knows.get(w)[p] ^= true;
-                x.knows(p, w, m.knows.get(w)[p]);
+    /** Mostly rows are on the first shelves and words on the last ones. */
+    private int likelyShelf(String call) {
+        if (r.nextInt(6) == 0) {
+            return between(0, 7);
+        }
+        return List.of("show", "says").contains(call) ? between(5, 7) : between(0, 2);
+    }
+
+    private int manyOf(String call) {
+        return call.equals("row") ? between(0, r.nextInt(4) == 0 ? 40 : 9) : between(0, call.equals("copy") ? 3 : 6);
+    }
+
+    private void anyCall() {
+        String method = Face.METHODS[r.nextInt(Face.METHODS.length)];
+        String name = Face.name(method);
+        // Most that there is would soon be gone or away by these.
+        if (List.of("again", "back", "round", "rounds", "evening").contains(name) && r.nextInt(6) != 0) {
+            return;
+        }
+        List<Object> arguments = new ArrayList<>();
+        for (String parameter : Face.parameters(method)) {
+            arguments.add(argument(name, parameter));
+        }
+        both(name, arguments.toArray());
+        if (slow.status(3) >= letters) {
+            both("ask", 0, between(0, letters - 1));
+        }
+    }
+
+    private void ask() {
+        int[][] mayBe = {{0, letters - 1}, {1, 5}, {1, 80}, {0, 50}, {0, 50}, {0, 50}, {0, 1}, {0, 1}};
+        int what = r.nextInt(8);
+        both("ask", what, between(mayBe[what][0], mayBe[what][1]));
+    }
+
+    /** Words of the letter that the person knows, most of them of columns of their own. */
+    private List<Integer> line(int person) {
+        List<Integer> all = new ArrayList<>();
+        int columns = 0;
+        for (int w = 0; w < slow.status(1); w++) {
+            boolean isKnown = (slow.wordOf(w, 5) >> person & 1) == 1 && slow.wordOf(w, 1) == slow.status(3);
+            boolean isTaken = (columns >> slow.wordOf(w, 2) & 1) == 1;
+            if (all.size() < 5 && r.nextInt(4) != 0 && (isKnown && !isTaken || r.nextInt(60) == 0)) {
+                all.add(w);
+                columns |= 1 << slow.wordOf(w, 2);
             }
-            case 1 -> {
-                int[] most = {1, 5, 100, 50, 50, 50, 1, 1};
-                int what = r.nextInt(8);
-                int v = what == 1 || what == 2 ? 1 + r.nextInt(most[what]) : r.nextInt(most[what] + 1);
-                due("ask", m.asked[what], x.ask(what, v));
-                m.asked[what] = v;
+        }
+        java.util.Collections.shuffle(all, r);
+        return all;
+    }
+
+    private void tellSheet() {
+        int person = between(0, slow.status(2) - 1);
+        List<Integer> line = line(Math.max(0, person));
+        both("row", 0, between(0, 3), line.size());
+        for (int i = 0; i < line.size(); i++) {
+            both("set", 0, i, (long) line.get(i));
+        }
+        both("judge", 0, line.size(), person);
+        both("takes", 0, line.size(), person);
+        both("sheet", 0, line.size(), person);
+    }
+
+    private String blanks() {
+        return " ".repeat(r.nextInt(12) == 0 ? r.nextInt(4) : 1);
+    }
+
+    private String statement(String name) {
+        StringBuilder text = new StringBuilder(name);
+        int[][] mayBe = switch (name) {
+            case "columns" -> new int[][] {{1, 5}};
+            case "word" -> new int[][] {{0, 5}, {0, letters - 1}, {0, slow.status(0) - 1}, {1, longest}, {0, 9}};
+            case "knows" -> new int[][] {{0, slow.status(2) - 1}, {0, slow.status(1) - 1}};
+            case "letter" -> new int[][] {{0, letters - 1}};
+            case "need" -> new int[][] {{1, 5}};
+            case "bell" -> new int[][] {{1, 60}};
+            case "points" -> new int[][] {{0, 50}, {0, 50}, {0, 50}};
+            default -> new int[0][];
+        };
+        for (int[] range : mayBe) {
+            text.append(blanks()).append(r.nextInt(40) == 0 ? strange() : between(range[0], range[1]));
+        }
+        if (name.equals("sheet")) {
+            int person = between(0, slow.status(2) - 1);
+            text.append(blanks()).append(person);
+            line(Math.max(0, person)).forEach(w -> text.append(blanks()).append(w));
+        }
+        return text.toString();
+    }
+
+    /** Mostly an evening, now and then with a byte that is another or isn't there. */
+    private void tellEvening() {
+        both("wipe");
+        StringBuilder text = new StringBuilder();
+        int n = 1 + r.nextInt(5);
+        for (int k = 0; k < n; k++) {
+            text.append(k == 0 ? "" : r.nextInt(10) == 0 ? " ; " : ";").append(statement(NAMES[r.nextInt(NAMES.length)]));
+        }
+        if (r.nextInt(3) == 0) {
+            int at = r.nextInt(text.length());
+            if (r.nextBoolean()) {
+                text.deleteCharAt(at);
+            } else {
+                text.setCharAt(at, "0;w 9?".charAt(r.nextInt(6)));
             }
-            case 2 -> due("takeBest", m.takeBest(p), x.takeBest(p));
-            case 3 -> {
-                if (r.nextInt(3) == 0) {
-                    due("round", m.round(), x.round());
+        }
+        tell(text.toString());
+    }
+
+    private void tell(String text) {
+        for (int i = 0; i < text.length(); i++) {
+            both("feed", (int) text.charAt(i));
+        }
+        both("evening");
+    }
+
+    private void begin() {
+        both("columns", r.nextInt(4) == 0 ? between(1, 5) : between(3, 5));
+        int people = r.nextInt(12) == 0 ? 0 : between(1, 4);
+        for (int p = 0; p < people; p++) {
+            both("person");
+        }
+        int words = r.nextInt(15) == 0 ? 0 : between(1 + 3 * r.nextInt(letters + 1), Math.min(24, 9 * letters));
+        for (int w = 0; w < words; w++) {
+            int letter = r.nextBoolean() ? 0 : between(0, letters - 1);
+            both("word", between(0, 5), letter, between(0, slow.status(0) - 1), between(1, longest), between(0, 9));
+            for (int p = 0; p < people; p++) {
+                if (r.nextInt(4) != 0) {
+                    both("knows", p, w, true);
                 }
             }
-            case 4 -> {
-                int n = m.sheets.get(p).size();
-                if (n > 0) {
-                    int i = r.nextInt(n);
-                    int j = r.nextInt(n);
-                    java.util.Collections.swap(m.sheets.get(p), i, j);
-                    due("swap", m.sheets.get(p).get(i), x.swap(p, i, j));
+        }
+        for (int p = 0; p < people; p++) {
+            tellSheet();
+        }
+    }
+
+    private void play() {
+        begin();
+        int texts = r.nextInt(3);
+        for (int k = 0; k < CALLS && calls < CALLS; k++) {
+            switch (r.nextInt(16)) {
+                case 0, 1, 2 -> tellSheet();
+                case 3 -> ask();
+                case 4 -> {
+                    if (texts > 0) {
+                        texts--;
+                        tellEvening();
+                    }
                 }
+                default -> anyCall();
             }
-            default -> tellSheet(x, m, r, p);
         }
     }
 
-    private static void play(int seed) {
-        Random r = new Random(seed);
-        TownRiverBeast x = new TownRiverBeast();
-        Model m = new Model();
-        begin(x, m, r, 4 + r.nextInt(6), 1 + r.nextInt(2));
-        for (int p = 0; p < m.sheets.size(); p++) {
-            tellSheet(x, m, r, p);
-        }
-        for (int k = 0; k < 12; k++) {
-            change(x, m, r);
-            compareAll("run " + seed + " step " + k, x, m, r);
-        }
-        compareLearn("run " + seed, x, m);
-    }
-
-    private static void playRounds(int seed) {
-        Random r = new Random(seed);
-        TownRiverBeast x = new TownRiverBeast();
-        Model m = new Model();
-        begin(x, m, r, 12, 26);
-        m.asked[7] = r.nextInt(2);
-        x.ask(7, m.asked[7]);
-        m.seed = r.nextInt();
-        due("seed", 1, x.seed(m.seed));
-        for (int k = 0; k < 3; k++) {
-            int n = 1 + r.nextInt(9);
-            due("rounds " + seed, m.rounds(n), x.rounds(n));
-            due("seed", m.seed, x.status(17));
-            due("letter", m.asked[0], x.status(3));
-            for (int p = 0; p < m.sheets.size(); p++) {
-                due("score " + seed, m.scores.get(p), x.score(p));
-            }
+    /** Texts alone, each on the same object as the one ahead. */
+    private void playTexts() {
+        for (int k = 0; k < 60 && calls < CALLS; k++) {
+            tellEvening();
         }
     }
 
     public static void main(String[] args) {
-        for (int seed = 0; seed < 400; seed++) {
-            play(seed);
+        for (int run = 0; run < 500; run++) {
+            new ModelTest(run).play();
         }
-        for (int seed = 0; seed < 60; seed++) {
-            playRounds(seed);
+        for (int run = 500; run < 1500; run++) {
+            new ModelTest(run).playTexts();
+        }
+        for (String method : Face.METHODS) {
+            int[] seen = SEEN.getOrDefault(Face.name(method), new int[2]);
+            Check.due(method + " is answered often", 1, seen[0] > 100 ? 1 : 0);
+            if (args.length > 0) {
+                System.out.println(method + ": " + seen[0] + " answered, " + seen[1] + " refused");
+            }
         }
         Check.end();
     }

@@ -110,6 +110,13 @@ final class Boundary {
         sameBut(how + ", image", BAD, x, twin);
     }
 
+    /** All that can be told of both is the same, behind back() too. */
+    static void alike(String how, TownRiverBeast x, TownRiverBeast twin) {
+        sameBut(how, NO_REFUSAL, x, twin);
+        due(how + ", image", twin.back(), x.back());
+        sameBut(how + ", image", NO_REFUSAL, x, twin);
+    }
+
     private static void sameBut(String how, int refusal, TownRiverBeast x, TownRiverBeast twin) {
         Map<String, Long> got = view(x);
         Map<String, Long> want = view(twin);

@@ -76,6 +76,17 @@ final class Worlds {
         return x;
     }
 
+    /**
+     * An evening of three by letter 17, worked out by hand. Words 0 to 5, one of each kind, take 9, 6, 15, 4, 5, 17, in
+     * columns 0 1 2 2 0 3; word 6 is of letter 3. Written by: person 0: 1 at 6, 0 at 15, 2 at 30, 5 at 47, and calls;
+     * person 1: 0 at 9, 3 at 13, 1 at 19; person 2: 4 at 5, 3 at 9. Points: 5 5 10 20; 5 5 5; 10 5.
+     */
+    static TownRiverBeast story() {
+        return of("letter 17;word 0 17 0 9 0;word 1 17 1 12 6;word 2 17 2 12 3;word 3 17 2 9 0;word 4 17 0 5 0;word 5 17 3 8 4;"
+            + "word 0 3 0 7 0/person;person;person;knows 0 0;knows 0 1;knows 0 2;knows 0 5;knows 1 0;knows 1 1;knows 1 3;"
+            + "knows 1 4;knows 2 3;knows 2 4/sheet 0 1 0 2 5;sheet 1 0 3 1;sheet 2 4 3");
+    }
+
     static TownRiverBeast people(int n) {
         TownRiverBeast x = new TownRiverBeast();
         for (int p = 0; p < n; p++) {
